@@ -71,6 +71,11 @@ public final class LanguageTest {
         for (Method m : c.getDeclaredMethods()) {
             must("1: no private method bears a public name: " + m, Modifier.isPublic(m.getModifiers()) || !names.contains(m.getName()));
         }
+        for (Class<?> inside : c.getDeclaredClasses()) {
+            for (Method m : inside.getDeclaredMethods()) {
+                must("1: no method inside bears a public name: " + m, !names.contains(m.getName()));
+            }
+        }
         for (Field f : c.getDeclaredFields()) {
             must("1: private: " + f, Modifier.isPrivate(f.getModifiers()));
         }
